@@ -1,0 +1,62 @@
+/** Counts the answers that are as due and prints those that are not. */
+final class Check {
+    /** A call whose answer, or whose exception, is looked at. */
+    interface Call {
+        void make();
+    }
+
+    private final String name;
+    private int right;
+    private int wrong;
+
+    Check(String name) {
+        this.name = name;
+    }
+
+    void same(String call, long answer, long due) {
+        if (answer == due) {
+            right++;
+        } else {
+            wrong++;
+            System.out.println(name + ": " + call + " answered " + answer + ", due is " + due);
+        }
+    }
+
+    void same(String call, boolean answer, boolean due) {
+        same(call, answer ? 1 : 0, due ? 1 : 0);
+    }
+
+    void bad(String call, Call made) {
+        throwing(call, made, IllegalArgumentException.class);
+    }
+
+    void notNow(String call, Call made) {
+        throwing(call, made, IllegalStateException.class);
+    }
+
+    void noSuch(String call, Call made) {
+        throwing(call, made, IndexOutOfBoundsException.class);
+    }
+
+    private void throwing(String call, Call made, Class<? extends RuntimeException> due) {
+        String thrown = "nothing";
+        try {
+            made.make();
+        } catch (RuntimeException e) {
+            thrown = e.getClass().getName();
+        }
+        if (thrown.equals(due.getName())) {
+            right++;
+        } else {
+            wrong++;
+            System.out.println(name + ": " + call + " threw " + thrown + ", due is " + due.getName());
+        }
+    }
+
+    void end() {
+        System.out.println(name + ": " + right + " answers as due, " + wrong + " not");
+        if (wrong != 0 || right == 0) {
+            System.exit(1);
+        }
+    }
+}
