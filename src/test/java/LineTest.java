@@ -142,9 +142,6 @@ public final class LineTest {
         x.train(100);
         x.zone(3000, 3100);
         x.zone(10, 20);
-        x.silent(0, true);
-        check.same("close(0, true) with a SILENT one that does not keep it: LIMIT", x.trainIs(0, 4), 5000);
-        x.silent(0, false);
         x.close(0, true);
         x.silent(0, true);
         x.close(0, false);

@@ -102,6 +102,10 @@ public final class StopTest {
         check.same("bar(false, 0, 2)", x.bar(false, 0, 2), 15);
         x.shut(0);
         check.same("open(0, 0) with the same barred at both", x.open(0, 0), 13);
+        check.same("bar(true, 0, 0)", x.bar(true, 0, 0), 2);
+        check.same("bar(false, 0, 0)", x.bar(false, 0, 0), 2);
+        x.shut(0);
+        check.same("open(0, 0) with none barred any more", x.open(0, 0), 15);
 
         HeadwayDeep y = new HeadwayDeep();
         y.train(1000);

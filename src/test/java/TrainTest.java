@@ -175,6 +175,10 @@ public final class TrainTest {
         check.same("emergency(0) at rest", x.emergency(0), false);
         x.pass(1);
         check.same("speed behind that", x.trainIs(0, 3), 1);
+        HeadwayDeep y = new HeadwayDeep();
+        y.train(100);
+        y.pass(1);
+        check.same("emergency(0) at 1", y.emergency(0), true);
         x.pass(6);
         check.same("emergency(0) at 7", x.emergency(0), true);
         check.same("emergency(0) again", x.emergency(0), true);
@@ -266,5 +270,17 @@ public final class TrainTest {
         x.pass(1);
         check.same("LOW from a beacon", x.trainIs(0, 1), 105);
         check.same("HIGH from a beacon", x.trainIs(0, 2), 107);
+
+        HeadwayDeep y = new HeadwayDeep();
+        y.beacon(102);
+        y.train(100);
+        y.slip(0, 1);
+        y.pass(1);
+        check.same("LOW on the only beacon", y.trainIs(0, 1), 102);
+        y.slip(0, -1);
+        y.pass(1);
+        check.same("PLACE from it with slip -1", y.trainIs(0, 0), 103);
+        check.same("LOW from it", y.trainIs(0, 1), 103);
+        check.same("HIGH from it", y.trainIs(0, 2), 105);
     }
 }
