@@ -44,7 +44,7 @@ public final class AnyCallsTest {
             int b = scene.second(call, a, x);
             int c = random.nextInt(20) == 0 ? any(random) : random.nextInt(16);
             String due = model.answer(call, a, b, c);
-            String answer = answer(x, call, a, b, c);
+            String answer = Calls.answer(x, call, a, b, c);
             String told = call + "(" + a + ", " + b + ", " + c + ")";
             boolean isDue = answer.equals(due);
             check.same("run " + run + ": " + told + " answered " + answer + " for " + due, isDue, true);
@@ -142,7 +142,7 @@ public final class AnyCallsTest {
         }
 
         void learn(String call, int a, String due) {
-            if (due.endsWith("Exception")) {
+            if (Calls.isThrown(due)) {
                 return;
             }
             if (call.equals("platform")) {
@@ -156,56 +156,8 @@ public final class AnyCallsTest {
         return EDGES[random.nextInt(EDGES.length)];
     }
 
-    private static String answer(HeadwayDeep x, String call, int a, int b, int c) {
-        try {
-            return made(x, call, a, b, c);
-        } catch (RuntimeException e) {
-            return e.getClass().getSimpleName();
-        }
-    }
-
-    private static String made(HeadwayDeep x, String call, int a, int b, int c) {
-        switch (call) {
-            case "platform": return told(x.platform(a));
-            case "beacon": return told(x.beacon(a));
-            case "works": return told(x.works(a, b == 1));
-            case "zone": return told(x.zone(a, b));
-            case "close": return told(x.close(a, b == 1));
-            case "speed": return told(x.speed(a));
-            case "train": return told(x.train(a));
-            case "trainIs": return told(x.trainIs(a, b));
-            case "slip": return told(x.slip(a, b));
-            case "silent": return told(x.silent(a, b == 1));
-            case "emergency": return told(x.emergency(a));
-            case "pass": return told(x.pass(a));
-            case "stop":
-                x.stop(a, b);
-                return PlainModel.NOTHING;
-            case "bar": return told(x.bar(a == 1, b, c));
-            case "open": return told(x.open(a, b));
-            case "shut":
-                x.shut(a);
-                return PlainModel.NOTHING;
-            case "hold": return told(x.hold(a, b));
-            case "depart": return told(x.depart(a));
-            case "rate": return told(x.rate(a, b));
-            case "platformIs": return told(x.platformIs(a, b));
-            case "record": return told(x.record(a, b));
-            case "placeAnew": return told(x.placeAnew(a));
-            default: return told(x.isSafe());
-        }
-    }
-
-    private static String told(int number) {
-        return String.valueOf(number);
-    }
-
-    private static String told(boolean isSo) {
-        return isSo ? "1" : "0";
-    }
-
     private static boolean seesTheSame(int run, String call, HeadwayDeep x, PlainModel model) {
-        String answers = seen(call, 5, 6, (name, a, b) -> answer(x, name, a, b, 0));
+        String answers = seen(call, 5, 6, (name, a, b) -> Calls.answer(x, name, a, b, 0));
         String due = seen(call, 5, 6, (name, a, b) -> model.answer(name, a, b, 0));
         boolean isSame = answers.equals(due);
         check.same("run " + run + ": all that is seen behind " + call + "\n  " + answers + "\n  " + due, isSame, true);
@@ -234,8 +186,7 @@ public final class AnyCallsTest {
     }
 
     private static void count(String call, String due) {
-        boolean isThrown = due.endsWith("Exception");
-        met.merge(call + " " + (isThrown ? due : "answers"), 1, Integer::sum);
+        met.merge(call + " " + (Calls.isThrown(due) ? due : "answers"), 1, Integer::sum);
     }
 
     private static void meetsAllOutcomes() {
