@@ -157,32 +157,12 @@ public final class AnyCallsTest {
     }
 
     private static boolean seesTheSame(int run, String call, HeadwayDeep x, PlainModel model) {
-        String answers = seen(call, 5, 6, (name, a, b) -> Calls.answer(x, name, a, b, 0));
-        String due = seen(call, 5, 6, (name, a, b) -> model.answer(name, a, b, 0));
+        List<String> answers = Probe.seen(Calls.of(x));
+        List<String> due = Probe.seen(model::answer);
         boolean isSame = answers.equals(due);
         check.same("run " + run + ": all that is seen behind " + call + "\n  " + answers + "\n  " + due, isSame, true);
         check.same("run " + run + ": it is safe behind " + call, x.isSafe(), true);
         return isSame;
-    }
-
-    private interface Asked {
-        String ask(String name, int a, int b);
-    }
-
-    private static String seen(String call, int trains, int platforms, Asked asked) {
-        StringBuilder all = new StringBuilder();
-        for (int train = 0; train < trains; train++) {
-            for (int what = 0; what <= 10; what++) {
-                all.append(asked.ask("trainIs", train, what)).append(' ');
-            }
-            all.append(asked.ask("placeAnew", train, 0)).append(" / ");
-        }
-        for (int platform = 0; platform < platforms; platform++) {
-            for (int what = 0; what <= 3; what++) {
-                all.append(asked.ask("platformIs", platform, what)).append(' ');
-            }
-        }
-        return all.toString();
     }
 
     private static void count(String call, String due) {

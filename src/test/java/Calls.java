@@ -3,6 +3,10 @@ final class Calls {
     private Calls() {
     }
 
+    static Probe.Asked of(HeadwayDeep x) {
+        return (call, a, b, c) -> answer(x, call, a, b, c);
+    }
+
     /** What a call answers, or the name of what it throws. */
     static String answer(HeadwayDeep x, String call, int a, int b, int c) {
         try {

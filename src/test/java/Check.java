@@ -5,12 +5,28 @@ final class Check {
         void make();
     }
 
+    private static final long LONGEST_MILLISECONDS = 300_000;
+
     private final String name;
     private int right;
     private int wrong;
 
     Check(String name) {
         this.name = name;
+        Thread watch = new Thread(this::endAsFailed);
+        watch.setDaemon(true);
+        watch.start();
+    }
+
+    /** A call that does not end must fail the test, and not keep it from ending. */
+    private void endAsFailed() {
+        try {
+            Thread.sleep(LONGEST_MILLISECONDS);
+        } catch (InterruptedException e) {
+            return;
+        }
+        System.out.println(name + ": does not end");
+        Runtime.getRuntime().halt(1);
     }
 
     void same(String call, long answer, long due) {

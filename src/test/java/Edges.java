@@ -22,23 +22,24 @@ final class Edges {
         check.same("the document says '" + quoted + "'", doc.says(part, words), true);
     }
 
-    /** Makes the calls on a new object; one that is to be refused must also leave all as it was. */
+    /** Makes the calls on a new object: the answers must be those told, and all that they leave that of the model. */
     void run(String script) {
         runs++;
         List<Step> steps = Step.all(script);
         check.same(quoted + ": calls, at most " + MOST_CALLS, steps.size() <= MOST_CALLS, true);
-        HeadwayDeep x = new HeadwayDeep();
-        PlainModel model = new PlainModel();
+        Probe.Asked made = Calls.of(new HeadwayDeep());
         for (int i = 0; i < steps.size(); i++) {
             Step step = steps.get(i);
             String told = quoted + ": call " + (i + 1) + ", " + step.text;
-            String answer = step.made(x);
+            String answer = step.made(made);
             check.same(told + ", answered " + answer, isDue(step, answer), true);
-            check.same(told + ", beside the model", answer.equals(step.modelled(model)), true);
             if (step.isRefused()) {
                 leavesAllAsItWas(told, steps.subList(0, i), step);
             }
         }
+        String told = quoted + ": behind '" + script.strip() + "'";
+        same(told + ", further on", Probe.onward(made(steps)), Probe.onward(modelled(steps)));
+        same(told + ", as told", Probe.told(made(steps)), Probe.told(modelled(steps)));
     }
 
     private static boolean isDue(Step step, String answer) {
@@ -46,20 +47,20 @@ final class Edges {
     }
 
     private void leavesAllAsItWas(String told, List<Step> ahead, Step refused) {
-        HeadwayDeep x = made(ahead);
-        List<String> seen = Probe.seen(x);
-        refused.made(x);
-        same(told + ", as seen", Probe.seen(x), seen);
+        Probe.Asked asked = made(ahead);
+        List<String> seen = Probe.seen(asked);
+        refused.made(asked);
+        same(told + ", as seen", Probe.seen(asked), seen);
         answersTheSame(told + ", further on", ahead, refused, Probe::onward);
         answersTheSame(told + ", as told", ahead, refused, Probe::told);
     }
 
     /** Beside an object of the same calls without the refused one. */
     private void answersTheSame(String told, List<Step> ahead, Step refused,
-            Function<HeadwayDeep, List<String>> probe) {
-        HeadwayDeep x = made(ahead);
-        refused.made(x);
-        same(told, probe.apply(x), probe.apply(made(ahead)));
+            Function<Probe.Asked, List<String>> probe) {
+        Probe.Asked asked = made(ahead);
+        refused.made(asked);
+        same(told, probe.apply(asked), probe.apply(made(ahead)));
     }
 
     private void same(String told, List<String> answers, List<String> due) {
@@ -71,10 +72,16 @@ final class Edges {
         }
     }
 
-    private static HeadwayDeep made(List<Step> steps) {
-        HeadwayDeep x = new HeadwayDeep();
-        steps.forEach(step -> step.made(x));
-        return x;
+    private static Probe.Asked made(List<Step> steps) {
+        Probe.Asked asked = Calls.of(new HeadwayDeep());
+        steps.forEach(step -> step.made(asked));
+        return asked;
+    }
+
+    private static Probe.Asked modelled(List<Step> steps) {
+        PlainModel model = new PlainModel();
+        steps.forEach(step -> step.made(model::answer));
+        return model::answer;
     }
 
     void end() {

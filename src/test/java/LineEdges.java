@@ -422,6 +422,10 @@ final class LineEdges {
         }
         // Not those whose HIGH is above it: what they KEEP is far beyond.
         e.run("train 1000; zone 500 600; pass 9; close 0 true = false; limit 0 = 5000");
+        // Nor by the REPORT of one that was SILENT as it went on, or is so still.
+        String beyond = "train 1000; zone 1100 1200; silent 0 true; pass 40; low 0 = 1455\n";
+        e.run(beyond + "silent 0 false; close 0 true = false; limit 0 = 5000");
+        e.run(beyond + "close 0 true = false; limit 0 = 5000");
         // Each of them, also one with a greater number, or farther off.
         e.run("""
             train 500; train 200; pass 5

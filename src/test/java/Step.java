@@ -55,12 +55,8 @@ final class Step {
         }
     }
 
-    String made(HeadwayDeep x) {
-        return Calls.answer(x, call, given[0], given[1], given[2]);
-    }
-
-    String modelled(PlainModel model) {
-        return model.answer(call, given[0], given[1], given[2]);
+    String made(Probe.Asked asked) {
+        return asked.answer(call, given[0], given[1], given[2]);
     }
 
     boolean isRefused() {

@@ -91,6 +91,12 @@ final class StopEdges {
         e.run(WIDE + "platform 303; stop 0 0; open 0 0 = ISE; depart 0 = ISE");
         e.run(WIDE + "platform 301; stop 0 0; open 0 0 = 15; shut 0; depart 0 = 0");
 
+        // Nor is its REPORT, which is 300 as long as it is SILENT.
+        e.run("""
+            platform 302; beacon 301; train 300; stop 0 0; silent 0 true; pass 9; speedOf 0 = 0
+            low 0 = 301; high 0 = 303; open 0 0 = 15; shut 0; depart 0 = 0
+            """);
+
         e.says("Terms", "and its HIGH at most 1 more.");
         e.run("train 300; platform 299; stop 0 0; open 0 0 = 15; shut 0; depart 0 = 0");
         e.run("train 300; platform 298; stop 0 0 = ISE; open 0 0 = ISE; depart 0 = ISE");
@@ -169,6 +175,11 @@ final class StopEdges {
         e.run(AT_STOP + "hold 0 2; pass 1; held 0 = 1; depart 0 = ISE; pass 1; depart 0 = 0");
         e.run(AT_STOP + "pass 9; speedOf 0 = 0; stopOf 0 = 0; depart 0 = 0; pass 1; speedOf 0 = 1");
         e.run("platform 300; train 300; depart 0 = ISE; departures 0 = 0");
+        // The STOP alone is gone: those in it, and those who wait, stay.
+        e.run(AT_STOP + """
+            rate 0 9; bar true 0 3; slip 0 1; open 0 0; pass 3; people 0 = 12; waiting 0 = 15; shut 0; depart 0 = 0
+            people 0 = 12; waiting 0 = 15; doors 0 = none; slip 0 1 = 1; bar true 0 3 = 3; rate 0 9 = 9; speedOf 0 = 0
+            """);
     }
 
     private void gaps() {

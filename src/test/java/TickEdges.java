@@ -179,6 +179,15 @@ final class TickEdges {
             """);
         e.run("train 300; slip 0 1; hold 0 3; pass 3; place 0 = 300; low 0 = 300; high 0 = 300; pass 1; place 0 = 302");
         e.run("train 300; slip 0 -1; hold 0 3; pass 3; place 0 = 300; low 0 = 300; high 0 = 300");
+        // The slip also counts in EMERGENCY, and of a SILENT one.
+        e.run("""
+            train 300; slip 0 1; pass 5; place 0 = 320; emergency 0
+            pass 1; speedOf 0 = 2; place 0 = 323; low 0 = 311; high 0 = 323
+            """);
+        e.run("""
+            train 300; slip 0 -1; pass 5; place 0 = 310; silent 0 true
+            pass 1; speedOf 0 = 6; place 0 = 315; low 0 = 315; high 0 = 327
+            """);
         e.run("speed 20; train 300; pass 19; place 0 = 490; pass 1; place 0 = 510; low 0 = 490; high 0 = 530");
     }
 
@@ -219,6 +228,9 @@ final class TickEdges {
         e.run("beacon 301; works 0 false; train 300; pass 1; low 0 = 300; high 0 = 302");
         e.run("beacon 301; beacon 301; works 0 false; train 300; pass 1; low 0 = 301; high 0 = 301");
         e.run("beacon 301; beacon 301; works 0 false; works 1 false; train 300; pass 1; low 0 = 300; high 0 = 302");
+        // Also one that is SILENT, or in EMERGENCY.
+        e.run("beacon 301; train 300; silent 0 true; pass 1; low 0 = 301; high 0 = 301");
+        e.run("beacon 317; train 300; pass 5; emergency 0; pass 1; inEmergency 0 = 1; low 0 = 317; high 0 = 317");
         // Each train meets it on its own.
         e.run("beacon 301; train 300; train 900; pass 1; low 0 = 301; high 0 = 301; low 1 = 900; high 1 = 902");
         e.run("""
