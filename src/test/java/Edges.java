@@ -22,6 +22,12 @@ final class Edges {
         check.same("the document says '" + quoted + "'", doc.says(part, words), true);
     }
 
+    /** What no run of calls can ask for, as it is of the class itself. */
+    void sees(String told, boolean isSo) {
+        runs++;
+        check.same(quoted + ": " + told, isSo, true);
+    }
+
     /** Makes the calls on a new object: the answers must be those told, and all that they leave that of the model. */
     void run(String script) {
         runs++;
@@ -86,7 +92,7 @@ final class Edges {
 
     void end() {
         check.same("a run for '" + quoted + "'", runs > 0, true);
-        check.same("parts of the document", doc.parts(), 25);
+        check.same("parts of the document", doc.parts(), 28);
         for (String sentence : doc.unquoted()) {
             check.same("a test for '" + sentence + "'", false, true);
         }

@@ -1,83 +1,45 @@
+import java.io.IOException;
 import java.lang.reflect.Constructor;
 import java.lang.reflect.Field;
 import java.lang.reflect.Method;
 import java.lang.reflect.Modifier;
-import java.util.ArrayList;
-import java.util.Arrays;
 import java.util.List;
 import java.util.TreeSet;
 
-/** The class's face is the document's, and nothing more than that. */
+/** The class's face is the one of the document's block, word for word, and nothing more than that. */
 public final class FaceTest {
     private static final Check check = new Check("FaceTest");
 
-    private static final String[] FACE = {
-        "int platform(int) IllegalArgumentException IllegalStateException",
-        "int beacon(int) IllegalArgumentException IllegalStateException",
-        "boolean works(int,boolean) IndexOutOfBoundsException",
-        "int zone(int,int) IllegalArgumentException IllegalStateException",
-        "boolean close(int,boolean) IndexOutOfBoundsException IllegalStateException",
-        "int speed(int) IllegalArgumentException",
-        "int train(int) IllegalArgumentException IllegalStateException",
-        "int trainIs(int,int) IndexOutOfBoundsException IllegalArgumentException",
-        "int slip(int,int) IndexOutOfBoundsException IllegalArgumentException",
-        "boolean silent(int,boolean) IndexOutOfBoundsException",
-        "boolean emergency(int) IndexOutOfBoundsException",
-        "int pass(int) IllegalArgumentException IllegalStateException",
-        "void stop(int,int) IndexOutOfBoundsException IllegalStateException",
-        "int bar(boolean,int,int) IndexOutOfBoundsException IllegalArgumentException",
-        "int open(int,int) IndexOutOfBoundsException IllegalArgumentException IllegalStateException",
-        "void shut(int) IndexOutOfBoundsException IllegalStateException",
-        "int hold(int,int) IndexOutOfBoundsException IllegalArgumentException IllegalStateException",
-        "int depart(int) IndexOutOfBoundsException IllegalStateException",
-        "int rate(int,int) IndexOutOfBoundsException IllegalArgumentException",
-        "int platformIs(int,int) IndexOutOfBoundsException IllegalArgumentException",
-        "int record(int,int) IndexOutOfBoundsException IllegalArgumentException",
-        "int placeAnew(int) IndexOutOfBoundsException",
-        "boolean isSafe()",
-    };
-
-    public static void main(String[] args) {
-        hasTheMethods();
+    public static void main(String[] args) throws IOException {
+        Face face = new Face();
+        hasTheMethods(face);
         hasOneConstructorAndOneConstant();
-        usesNoPublicNameInside();
+        showsNothingElse(face);
+        usesNoPublicNameInside(face.names());
+        keepsTheOrder(face);
         check.end();
     }
 
-    private static void hasTheMethods() {
-        TreeSet<String> found = new TreeSet<>();
-        for (Method method : HeadwayDeep.class.getDeclaredMethods()) {
-            if (!Modifier.isPrivate(method.getModifiers())) {
-                found.add(told(method));
-                check.same(method + " is public and no more", method.getModifiers(), Modifier.PUBLIC);
-            }
+    private static void hasTheMethods(Face face) {
+        check.same("methods of the document", face.methods().size(), 23);
+        for (String method : face.methods()) {
+            check.same("the class has " + method, face.isOfClass(method), true);
+            check.same("the source has " + method, face.isOfSource("public " + method + " {"), true);
         }
-        for (String due : FACE) {
-            check.same("there is " + due, found.remove(due), true);
-        }
-        check.same("what is there besides: " + found, found.size(), 0);
-    }
-
-    private static String told(Method method) {
-        List<String> taken = new ArrayList<>();
-        for (Class<?> type : method.getParameterTypes()) {
-            taken.add(type.getSimpleName());
-        }
-        StringBuilder text = new StringBuilder(method.getReturnType().getSimpleName());
-        text.append(' ').append(method.getName()).append('(').append(String.join(",", taken)).append(')');
-        for (Class<?> thrown : method.getExceptionTypes()) {
-            text.append(' ').append(thrown.getSimpleName());
-        }
-        return text.toString();
     }
 
     private static void hasOneConstructorAndOneConstant() {
         int modifiers = HeadwayDeep.class.getModifiers();
         check.same("the class is public and final", modifiers, Modifier.PUBLIC | Modifier.FINAL);
+        check.same("the class is of no package", HeadwayDeep.class.getPackageName().isEmpty(), true);
+        check.same("what it extends", HeadwayDeep.class.getSuperclass() == Object.class, true);
+        check.same("what it implements", HeadwayDeep.class.getInterfaces().length, 0);
         Constructor<?>[] constructors = HeadwayDeep.class.getDeclaredConstructors();
         check.same("constructors", constructors.length, 1);
-        check.same("the constructor is public", Modifier.isPublic(constructors[0].getModifiers()), true);
+        check.same("the constructor is public", constructors[0].getModifiers(), Modifier.PUBLIC);
         check.same("what the constructor takes", constructors[0].getParameterCount(), 0);
+        check.same("what the constructor throws", constructors[0].getExceptionTypes().length, 0);
+        check.same("NONE", HeadwayDeep.NONE, -1);
         for (Field field : HeadwayDeep.class.getDeclaredFields()) {
             boolean isNone = field.getName().equals("NONE");
             check.same(field + " is private", Modifier.isPrivate(field.getModifiers()), !isNone);
@@ -87,15 +49,26 @@ public final class FaceTest {
         }
     }
 
-    private static void usesNoPublicNameInside() {
-        List<String> names = new ArrayList<>();
-        for (String due : FACE) {
-            names.add(due.substring(due.indexOf(' ') + 1, due.indexOf('(')));
+    private static void showsNothingElse(Face face) {
+        TreeSet<String> due = new TreeSet<>(face.names());
+        due.add("NONE");
+        due.add("HeadwayDeep");
+        TreeSet<String> seen = Face.seenFromOutside();
+        check.same("what is seen from outside, " + seen + " for " + due, seen.equals(due), true);
+        for (Method method : HeadwayDeep.class.getDeclaredMethods()) {
+            if (!Modifier.isPrivate(method.getModifiers())) {
+                check.same(method + " is public and no more", method.getModifiers(), Modifier.PUBLIC);
+            }
         }
-        List<Class<?>> classes = new ArrayList<>(Arrays.asList(HeadwayDeep.class.getDeclaredClasses()));
-        check.same("at most twelve classes", classes.size() <= 12, true);
+    }
+
+    private static void usesNoPublicNameInside(List<String> names) {
+        Class<?>[] classes = HeadwayDeep.class.getDeclaredClasses();
+        check.same("at most twelve classes", classes.length <= 12, true);
         for (Class<?> inside : classes) {
             check.same(inside + " is static", Modifier.isStatic(inside.getModifiers()), true);
+            check.same(inside + " is public or protected",
+                inside.getModifiers() & (Modifier.PUBLIC | Modifier.PROTECTED), 0);
             check.same(inside + " has at most twenty fields", inside.getDeclaredFields().length <= 20, true);
             for (Method method : inside.getDeclaredMethods()) {
                 check.same(method + " bears the name of a public one", names.contains(method.getName()), false);
@@ -105,6 +78,14 @@ public final class FaceTest {
             if (Modifier.isPrivate(method.getModifiers())) {
                 check.same(method + " bears the name of a public one", names.contains(method.getName()), false);
             }
+        }
+    }
+
+    private static void keepsTheOrder(Face face) {
+        for (String remark : face.sentences().values()) {
+            List<String> calls = face.callsBehind(remark);
+            boolean isSame = calls.equals(face.callsTold(remark));
+            check.same("the calls behind '" + remark + "': " + calls, isSame, true);
         }
     }
 }

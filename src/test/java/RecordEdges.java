@@ -12,6 +12,9 @@ final class RecordEdges {
         edges.recordOfLateTrains();
         edges.placeAnew();
         edges.isSafe();
+        edges.placesThatAreNotSafe();
+        edges.highsThatAreNotSafe();
+        edges.metresThatAreNotSafe();
     }
 
     private void record() {
@@ -117,5 +120,53 @@ final class RecordEdges {
             train 220; train 100; hold 0 60; pass 9; isSafe = true; silent 0 true; pass 60; isSafe = true
             low 0 = 256; high 1 = 100; pass 99; isSafe = true; silent 0 false; pass 99; isSafe = true
             """);
+    }
+
+    private void placesThatAreNotSafe() {
+        e.says("Promise 24", "Tells whether each PLACE is from its LOW to its HIGH,");
+        e.sees("below its LOW", !new ByHand(1000).with(0, "low", 1001).with(0, "high", 1001).isSafe());
+        e.sees("at its LOW", new ByHand(1000).with(0, "high", 1001).isSafe());
+        e.sees("at its HIGH", new ByHand(1000).with(0, "low", 999).isSafe());
+        e.sees("above its HIGH", !new ByHand(1000).with(0, "low", 998).with(0, "high", 999).isSafe());
+        // Each of them, not the first one alone, or the last one.
+        for (int train = 0; train < 3; train++) {
+            ByHand line = new ByHand(1000, 2000, 3000);
+            e.sees("three as they were put in", line.isSafe());
+            e.sees("one of three below its LOW", !line.with(train, "place", 500).isSafe());
+            e.sees("one of three above its HIGH", !line.with(train, "place", 4000).isSafe());
+        }
+    }
+
+    private void highsThatAreNotSafe() {
+        e.says("Promise 24", "each HIGH at most its LIMIT,");
+        e.sees("at it", new ByHand(1000).with(0, "limit", 1000).isSafe());
+        e.sees("above it", !new ByHand(1000).with(0, "limit", 999).isSafe());
+        e.sees("above it, the PLACE not", !new ByHand(1000).with(0, "high", 1001).with(0, "limit", 1000).isSafe());
+        for (int train = 0; train < 3; train++) {
+            ByHand line = new ByHand(1000, 2000, 3000).with(train, "limit", 500);
+            e.sees("one of three above it", !line.isSafe());
+        }
+    }
+
+    private void metresThatAreNotSafe() {
+        e.says("Promise 24", "and no two trains may cover one metre.");
+        // What the one at 1000 may cover begins at 900.
+        e.sees("one metre apart", new ByHand(1000, 500).with(1, "high", 899).with(1, "limit", 899).isSafe());
+        e.sees("both at 900", !new ByHand(1000, 500).with(1, "high", 900).with(1, "limit", 900).isSafe());
+        e.sees("the same, by the other's LOW", !new ByHand(1000, 500).with(0, "low", 600).isSafe());
+        e.sees("one metre apart, by the other's LOW", new ByHand(1000, 500).with(0, "low", 601).isSafe());
+        e.sees("one within the other", !new ByHand(1000, 500)
+            .with(1, "low", 100).with(1, "high", 4000).with(1, "limit", 4000).isSafe());
+        e.sees("numbers the other way", !new ByHand(500, 1000).with(0, "high", 900).with(0, "limit", 900).isSafe());
+        e.sees("numbers the other way, one metre apart",
+            new ByHand(500, 1000).with(0, "high", 899).with(0, "limit", 899).isSafe());
+        // Any two of them.
+        for (int behind = 0; behind < 4; behind++) {
+            ByHand line = new ByHand(1000, 2000, 3000, 4000, 5000);
+            int reached = 1900 + 1000 * behind;
+            line.with(behind, "limit", reached).with(behind, "high", reached - 1);
+            e.sees("one metre from the next", line.isSafe());
+            e.sees("one metre with the next", !line.with(behind, "high", reached).isSafe());
+        }
     }
 }

@@ -101,6 +101,24 @@ final class StopEdges {
         e.run("train 300; platform 299; stop 0 0; open 0 0 = 15; shut 0; depart 0 = 0");
         e.run("train 300; platform 298; stop 0 0 = ISE; open 0 0 = ISE; depart 0 = ISE");
         e.run(WIDE + "platform 300; stop 0 0 = ISE; platform 301; stop 0 1; open 0 0 = 15");
+        // No run of calls leads beyond that with a STOP, so it is put in by hand.
+        e.sees("its HIGH 1 more than the mark", opensWith("high", 301) && departsWith("high", 301));
+        e.sees("its HIGH 2 more than the mark", !opensWith("high", 302) && !departsWith("high", 302));
+        e.sees("its LOW 1 less than the mark", opensWith("low", 299) && departsWith("low", 299));
+        e.sees("its LOW 2 less than the mark", !opensWith("low", 298) && !departsWith("low", 298));
+    }
+
+    private static ByHand atStopWith(String name, int value) {
+        ByHand line = new ByHand(300).made("platform 300; stop 0 0");
+        return line.with(0, name, value);
+    }
+
+    private static boolean opensWith(String name, int value) {
+        return atStopWith(name, value).answers("open 0 0").equals("15");
+    }
+
+    private static boolean departsWith(String name, int value) {
+        return atStopWith(name, value).answers("depart 0").equals("0");
     }
 
     private void doorsThatAreBarred() {

@@ -163,6 +163,15 @@ final class TickEdges {
     }
 
     private void going() {
+        e.says("Terms", "Each goes by its new speed:");
+        e.run("""
+            train 900; train 300; hold 0 1
+            pass 1; place 0 = 900; place 1 = 301; pass 1; place 0 = 901; place 1 = 303
+            """);
+        // By the new one, not by the old one: 0 ahead of the first tick, 6 ahead of an EMERGENCY's.
+        e.run("train 300; speedOf 0 = 0; pass 1; speedOf 0 = 1; place 0 = 301; pass 1; speedOf 0 = 2; place 0 = 303");
+        e.run("train 300; pass 6; place 0 = 321; emergency 0; pass 1; speedOf 0 = 3; place 0 = 324; record 0 7 = 3");
+
         e.says("Terms", "with a speed above 0 its PLACE becomes more by the speed and its slip, together, "
             + "its LOW by the speed less 1, its HIGH by the speed and 1.");
         e.run("""

@@ -58,6 +58,14 @@ final class TrainEdges {
     }
 
     private void whatTrainsHave() {
+        e.says("Terms", "A train has a PLACE, that of its front as it is, and a LOW and a HIGH, "
+            + "between which it knows its PLACE to be;");
+        e.run("train 300; place 0 = 300; low 0 = 300; high 0 = 300; pass 3; place 0 = 306; low 0 = 303; high 0 = 309");
+        e.run("train 300; slip 0 1; pass 3; place 0 = 309; low 0 = 303; high 0 = 309");
+        e.run("train 300; slip 0 -1; pass 3; place 0 = 303; low 0 = 303; high 0 = 309");
+        // Its front, not its rear: put in at 300 it is ahead of a ZONE that begins at 301, and covers one of 200.
+        e.run("train 300; zone 301 302; zone 199 200; close 0 true = false; limit 0 = 301; close 1 true = ISE");
+
         e.says("Terms", "a speed, 0 at first; a LIMIT; a slip, -1, 0 or 1, 0 at first.");
         e.run("""
             train 300; place 0 = 300; low 0 = 300; high 0 = 300; speedOf 0 = 0; limit 0 = 5000
@@ -80,7 +88,8 @@ final class TrainEdges {
     }
 
     private void theOneAhead() {
-        e.says("Terms", "if its PLACE is greater, and no other train's PLACE is between both.");
+        e.says("Terms", "It is the one ahead of another one, "
+            + "if its PLACE is greater, and no other train's PLACE is between both.");
         e.run("""
             train 3000 = 0; train 1000 = 1; limit 0 = 5000; limit 1 = 2880
             train 2000 = 2; limit 0 = 5000; limit 1 = 1880; limit 2 = 2880
@@ -92,6 +101,15 @@ final class TrainEdges {
     }
 
     private void waysToStop() {
+        e.says("Terms", "The WAY TO STOP of a speed is that speed times 1 more than it, by 2, "
+            + "and that speed, together:");
+        for (int speed = 1; speed <= 20; speed++) {
+            int kept = highAt(speed) + speed * (speed + 1) / 2 + speed;
+            e.run(goingAt(speed) + "platform " + (kept - 2) + "; platform " + (kept - 1)
+                + "\nstop 0 0 = ISE; stop 0 1; pass " + speed
+                + "; speedOf 0 = 1; pass 1; speedOf 0 = 0; high 0 = " + kept);
+        }
+
         e.says("Terms", "0 of 0, 2 of 1, 5 of 2, 9 of 3, and so on.");
         e.run(goingAt(0) + "zone 200 300; zone 201 300; close 0 true = ISE; close 1 true = false");
         e.run(goingAt(1) + "zone 203 300; zone 204 300; close 0 true = ISE; close 1 true = false");
@@ -102,7 +120,8 @@ final class TrainEdges {
     }
 
     private void keeping() {
-        e.says("Terms", "if its HIGH and the WAY TO STOP of its speed, together, are at most that metre");
+        e.says("Terms", "A train KEEPS a metre, "
+            + "if its HIGH and the WAY TO STOP of its speed, together, are at most that metre");
         for (int speed = 0; speed <= 20; speed++) {
             int kept = highAt(speed) + wayToStop(speed);
             e.run(goingAt(speed) + "train " + (kept + 119) + " = ISE; train " + (kept + 120) + " = 1"
@@ -173,7 +192,8 @@ final class TrainEdges {
     }
 
     private void reports() {
-        e.says("Terms", "which is its LOW as it was ahead of the latest tick, or as it was put in since");
+        e.says("Terms", "A train that is not SILENT has a REPORT, "
+            + "which is its LOW as it was ahead of the latest tick, or as it was put in since");
         // The LOW is 1000, 1001 and 1003 behind the first three ticks.
         e.run("""
             train 1000; train 881 = ISE; train 880 = 1; limit 1 = 880
@@ -322,7 +342,7 @@ final class TrainEdges {
     }
 
     private void trainIs() {
-        e.says("Promise 9", "0 its PLACE, 1 its LOW, 2 its HIGH, 3 its speed, 4 its LIMIT, "
+        e.says("Promise 9", "Returns what a train is: 0 its PLACE, 1 its LOW, 2 its HIGH, 3 its speed, 4 its LIMIT, "
             + "5 whether it is in EMERGENCY, 1 or 0, 6 whether it is SILENT, 7 its STOP, NONE without, "
             + "8 its doors that are open, a set; NONE, if they are shut, 9 how many people it has, "
             + "10 for how many ticks it is held");
