@@ -18,6 +18,7 @@ public final class ReadmeTest {
         rideUsesAllCalls(readme);
         tablesLeaveNothingOut(readme);
         filesAreThere(readme);
+        scriptAnswersAsShown(readme);
         check.end();
     }
 
@@ -79,10 +80,22 @@ public final class ReadmeTest {
             tests.equals(new TreeSet<>(readme.named(TESTS))), true);
     }
 
+    /** The example of how EdgeTest quotes and asks. */
+    private static void scriptAnswersAsShown(Readme readme) throws IOException {
+        List<String> lines = readme.block("### How `EdgeTest` works", "");
+        check.same("lines of the example", lines.size(), 2);
+        String[] said = lines.get(0).split("\"");
+        check.same("the document says " + said[3], new Doc().says(said[1], said[3]), true);
+        Probe.Asked asked = Calls.of(new HeadwayDeep());
+        for (Step step : Step.all(lines.get(1).split("\"")[1])) {
+            String answer = step.made(asked);
+            check.same(step.text + " answered " + answer, step.due == null || answer.equals(step.due), true);
+        }
+    }
+
     private static void filesAreThere(Readme readme) throws IOException {
         check.same("the way to run the tests is one command", readme.block(TESTS, "sh").size(), 1);
-        check.same("that command is .ci/run", readme.block(TESTS, "sh").equals(List.of(".ci/run")), true);
-        check.same(".ci/run can be run", Files.isExecutable(Path.of(".ci/run")), true);
+        check.same("that command is sh .ci/run", readme.block(TESTS, "sh").equals(List.of("sh .ci/run")), true);
         for (String place : List.of("../shared/DOC.md", "../shared/LANGUAGE.md", "../shared/tests",
                 "src/main/java/HeadwayDeep.java")) {
             check.same("README.md tells of " + place, readme.says(place), true);
